@@ -1,0 +1,25 @@
+/** Compares answers with those that are due, and ends a test with exit code 1 if one differs. */
+final class Due {
+    private static int wrong = 0;
+
+    private Due() {
+    }
+
+    static void is(String call, long got, long want) {
+        if (got != want) {
+            wrong++;
+            System.out.println(call + " answered " + got + ", due is " + want);
+        }
+    }
+
+    static void is(String call, boolean got, boolean want) {
+        is(call, got ? 1L : 0L, want ? 1L : 0L);
+    }
+
+    static void end() {
+        System.out.println(wrong == 0 ? "all answers are as due" : wrong + " answers are not as due");
+        if (wrong != 0) {
+            System.exit(1);
+        }
+    }
+}
