@@ -15,9 +15,11 @@ public final class ModelTest {
 
     public static void main(String[] args) {
         for (int run = 0; run < 300; run++) {
-            // How many names the run chooses from, and how seldom it clears: few names meet often, many fill the room.
+            // Few names to choose from meet often, many fill the room; many puts for each name fill the hand.
             int names = new int[] {3, 20, 250, 400}[run % 4];
-            new ModelTest(run).mixedRun("run " + run, names, run % 3 == 0 ? 60 : 100000);
+            int clearOnceIn = run % 3 == 0 ? 60 : 100000;
+            int putsEach = run % 5 == 0 ? 20 : 1;
+            new ModelTest(run).mixedRun("run " + run, names, clearOnceIn, putsEach);
         }
         for (int run = 0; run < 40; run++) {
             new ModelTest(1000 + run).fillingRun("filling run " + run);
@@ -25,7 +27,7 @@ public final class ModelTest {
         Due.end();
     }
 
-    private void mixedRun(String run, int names, int clearOnceIn) {
+    private void mixedRun(String run, int names, int clearOnceIn, int putsEach) {
         ReferredNames x = new ReferredNames();
         Model m = new Model();
         for (int call = 0; call < CALLS; call++) {
@@ -34,7 +36,7 @@ public final class ModelTest {
                 Due.is(at + "clear()", x.clear(), m.clear());
             } else if (below(3) == 0) {
                 ask(at, x, m, argument(m.known.size()), argument(60));
-            } else if (below(2) == 0) {
+            } else if (below(putsEach + 1) != 0) {
                 putSome(at, x, m, names);
             } else {
                 giveOrRefer(at, x, m);

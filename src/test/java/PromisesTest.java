@@ -382,6 +382,9 @@ public final class PromisesTest {
         giveName(x, 'c');
         Due.is("8: count(5) with none missing any more", x.count(5), -1);
         Due.is("8: count(2) with none missing any more", x.count(2), 0);
+        ReferredNames y = new ReferredNames();
+        referName(y, 'a');
+        Due.is("8: count(5) with 0 missing", y.count(5), 0);
     }
 
     private static void promise9Clear() {
