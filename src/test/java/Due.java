@@ -7,13 +7,17 @@ final class Due {
 
     static void is(String call, long got, long want) {
         if (got != want) {
-            wrong++;
-            System.out.println(call + " answered " + got + ", due is " + want);
+            isWrong(call + " answered " + got + ", due is " + want);
         }
     }
 
     static void is(String call, boolean got, boolean want) {
         is(call, got ? 1L : 0L, want ? 1L : 0L);
+    }
+
+    static void isWrong(String what) {
+        wrong++;
+        System.out.println(what);
     }
 
     static void end() {
