@@ -4,6 +4,8 @@ public final class EdgesOfTermsTest {
         Integer.MIN_VALUE, -1, 0, 1, 3, 4, 5, 6, 8, 9, 59, 60, 61, 199, 200, 201, Integer.MAX_VALUE};
 
     public static void main(String[] args) {
+        noneMayBeGivenTwice();
+        allReferredToAreToBeGiven();
         the512thCallIsPromised();
         countsReachWhat512CallsCanMake();
         callsAfterThe512thEnd();
@@ -24,6 +26,40 @@ public final class EdgesOfTermsTest {
         aNewObject();
         aNewObjectAfterAFullOne();
         Due.end();
+    }
+
+    // What it is: "none may be given twice": each of many, in whatever order the second giving comes
+    private static void noneMayBeGivenTwice() {
+        Names x = new Names("What it is: \"none may be given twice\"");
+        x.giveNames(0, 100, 0);
+        for (int letter = 99; letter >= 0; letter--) {
+            x.giveName(letter, -1);
+        }
+        x.counts(100, 100, 0, 100, 0, -1);
+    }
+
+    // What it is: "all that are referred to are to be given, sooner or later": before, after, or not yet
+    private static void allReferredToAreToBeGiven() {
+        Names x = new Names("What it is: \"all that are referred to are to be given, sooner or later\"");
+        x.giveNames(0, 30, 0);
+        x.referNames(30, 60, 30);
+        for (int letter = 0; letter < 30; letter++) {
+            x.referName(letter, letter);
+        }
+        for (int letter = 58; letter >= 30; letter -= 2) {
+            x.giveName(letter, letter);
+        }
+        x.count(2, 15);
+        x.count(5, 31);
+        for (int letter = 31; letter < 59; letter += 2) {
+            x.look(letter, 3, letter + 2);
+        }
+        x.look(59, 3, -1);
+        for (int letter = 31; letter < 60; letter += 2) {
+            x.giveName(letter, letter);
+            x.count(5, letter == 59 ? -1 : letter + 2);
+        }
+        x.counts(60, 60, 0, 0, 0, -1);
     }
 
     // What it is: "An object is used for at most 512 calls after it has been made"
